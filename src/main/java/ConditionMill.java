@@ -411,7 +411,8 @@ public final class ConditionMill {
      */
     private static final class Reckoner {
         private static final int MOST_NESTED = 60;
-        // OPEN waits for its own end alone; the greater strengths are finished by all up to them.
+        // A sign behind an operand finishes what waits with its own strength or a greater one; OPEN
+        // is below all of them, since a bracket and a ? wait for their own other half.
         private static final int OPEN = -1, CHOICE = 0, WEAKEST = 1, STRONGEST = 10, FRONT = 11;
         private static final int NO_STRENGTH = 99;
         // Within each nest at most one operator of each strength waits.
@@ -634,16 +635,16 @@ public final class ConditionMill {
             held++;
         }
 
-        private void await(int sign, int strength, boolean skips) {
+        private void await(int sign, int strength, boolean skipsNext) {
             if (waiting >= MOST_WAITING) {
                 formed = false;
                 return;
             }
             signs[waiting] = sign;
             strengths[waiting] = strength;
-            this.skips[waiting] = skips;
+            skips[waiting] = skipsNext;
             waiting++;
-            if (skips) {
+            if (skipsNext) {
                 skipping++;
             }
         }
@@ -660,6 +661,8 @@ public final class ConditionMill {
 
     /** The operators on values of 64 bits, with a sign or without one. */
     private static final class Sums {
+        private static final long TOP_BIT = 1L << 63;
+
         static long front(int sign, long right) {
             switch (sign) {
                 case '-': return -right;
@@ -701,7 +704,7 @@ public final class ConditionMill {
 
         private static boolean holds(int sign, long left, long right, boolean plain) {
             // Without a sign the 64th bit is the greatest: turned over, it orders like a sign.
-            long turn = plain ? Long.MIN_VALUE : 0;
+            long turn = plain ? TOP_BIT : 0;
             switch (sign) {
                 case OR: return left != 0 || right != 0;
                 case AND: return left != 0 && right != 0;
@@ -723,14 +726,13 @@ public final class ConditionMill {
             if (!plain) {
                 return left / right;
             }
-            long turn = Long.MIN_VALUE;
             if (right < 0) {
-                return (left ^ turn) >= (right ^ turn) ? 1 : 0;
+                return (left ^ TOP_BIT) >= (right ^ TOP_BIT) ? 1 : 0;
             }
             // Halved, the left side has a sign to spare; what that may lack is one at the most.
             long near = (left >>> 1) / right << 1;
             long rest = left - near * right;
-            return (rest ^ turn) >= (right ^ turn) ? near + 1 : near;
+            return (rest ^ TOP_BIT) >= (right ^ TOP_BIT) ? near + 1 : near;
         }
     }
 }

@@ -32,6 +32,23 @@ public final class Promise3Test {
         check.due("cut(2)", quote.cut(2), 1);
         check.due("tokens() of an open quote", quote.tokens(), 2);
         check.due("kind of an open quote", quote.token(0, 2), 6);
+        String[] longer = {"++", "->", "...", "<<=", ">>=", "&&", "ab", "12", "1.", "1e+", "\"\"", "L''", "'a'"};
+        for (String text : longer) {
+            ConditionMill mark = Check.mill("@" + text);
+            int last = text.length();
+            check.due("cut of the last byte of " + text, mark.cut(last), 1);
+            int token = mark.tokens() - 1;
+            int end = mark.token(token, 0) + mark.token(token, 1);
+            check.due("end of the last token of " + text + " behind cut", end, last);
+        }
+        ConditionMill point = Check.mill(".5");
+        point.cut(1);
+        check.due("kind of a point behind cut", point.token(0, 2), 5);
+        ConditionMill escape = Check.mill("'\\\n");
+        escape.cut(2);
+        Check.feed(escape, "n'");
+        check.due("reckon() of a character behind cut", escape.reckon(), 0);
+        check.due("value() of a character behind cut", escape.value(), 10);
         check.end();
     }
 }

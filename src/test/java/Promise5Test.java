@@ -29,6 +29,10 @@ public final class Promise5Test {
         CHECK.signed("0x10", 16);
         CHECK.signed("0XaBcDeF", 0xabcdef);
         CHECK.signed("0x9aF", 0x9af);
+        CHECK.signed("0xA", 10);
+        CHECK.signed("0xF", 15);
+        CHECK.signed("0xa", 10);
+        CHECK.signed("0xf", 15);
         CHECK.signed("9223372036854775807", Long.MAX_VALUE);
         CHECK.signed("0777777777777777777777", Long.MAX_VALUE);
         CHECK.signed("0x7fffffffffffffff", Long.MAX_VALUE);
