@@ -3,30 +3,31 @@ public final class Promise7Test {
     private static final Check CHECK = new Check();
 
     public static void main(String[] args) {
-        count("", 0);
-        count(" \t\n\u000b\f\r", 0);
-        count("a", 1);
-        count(" a ", 1);
-        count("a b", 2);
-        count("a\tb\nc\u000bd\fe\rf", 6);
-        count("a+b", 3);
-        count("a+++++b", 5);
-        count("1e+5", 1);
-        count("1f+5", 3);
-        count("\"a b\" 'c d'", 2);
-        count("\"a b", 3);
-        count("1+(2 @ 3)", 7);
-        count("@@@", 3);
-        count("\u001c\u001f\b\u000e\0", 5);
-        count("\u0080\u00a0\u00ff", 3);
-        count("+".repeat(4096), 2048);
-        count("(".repeat(4096), 4096);
-        count("a".repeat(4096), 1);
-        count(" ".repeat(4096), 0);
-        count(" ".repeat(4095) + "a", 1);
-        count("a ".repeat(2048), 2048);
-        count("\\\"".repeat(2048), 4096);
-        count("\"\\".repeat(2048), 4096);
+        CHECK.count("", 0);
+        CHECK.count(" \t\n\u000b\f\r", 0);
+        CHECK.count("a", 1);
+        CHECK.count(" a ", 1);
+        CHECK.count("a b", 2);
+        CHECK.count("a\tb\nc\u000bd\fe\rf", 6);
+        CHECK.count("a+b", 3);
+        CHECK.count("a+++++b", 5);
+        CHECK.count("1e+5", 1);
+        CHECK.count("1f+5", 3);
+        CHECK.count("\"a b\" 'c d'", 2);
+        CHECK.count("\"a b", 3);
+        CHECK.count("1+(2 @ 3)", 7);
+        CHECK.count("@@@", 3);
+        CHECK.count("\u001c\u001f\b\u000e\0", 5);
+        CHECK.count("\u0080\u00a0\u00ff", 3);
+        // 511 calls bring 4088 bytes; the 512th asks.
+        CHECK.count("+".repeat(4088), 2044);
+        CHECK.count("(".repeat(4088), 4088);
+        CHECK.count("a".repeat(4088), 1);
+        CHECK.count(" ".repeat(4088), 0);
+        CHECK.count(" ".repeat(4087) + "a", 1);
+        CHECK.count("a ".repeat(2044), 2044);
+        CHECK.count("\\\"".repeat(2044), 4088);
+        CHECK.count("\"\\".repeat(2044), 4088);
 
         ConditionMill mill = Check.mill("a b c");
         CHECK.due("tokens()", mill.tokens(), 3);
@@ -42,9 +43,5 @@ public final class Promise7Test {
         Check.feed(mill, "\"");
         CHECK.due("tokens() of a closed quote", mill.tokens(), 3);
         CHECK.end();
-    }
-
-    private static void count(String text, int count) {
-        CHECK.due("tokens() of " + text, Check.mill(text).tokens(), count);
     }
 }

@@ -160,9 +160,11 @@ public final class Promise8Test {
         CHECK.due("token(1, 0)", mill.token(1, 0), 2);
         mill.cut(2);
         CHECK.due("token(1, 0) behind cut", mill.token(1, 0), ConditionMill.BAD);
-        ConditionMill full = Check.mill("(".repeat(4096));
-        CHECK.due("token(4095, 0)", full.token(4095, 0), 4095);
-        CHECK.due("token(4095, 1)", full.token(4095, 1), 1);
+        ConditionMill full = Check.mill("(".repeat(4056));
+        CHECK.due("token(4055, 0)", full.token(4055, 0), 4055);
+        CHECK.due("token(4055, 1)", full.token(4055, 1), 1);
+        CHECK.due("token(4056, 0)", full.token(4056, 0), ConditionMill.BAD);
+        CHECK.due("token(4095, 0)", full.token(4095, 0), ConditionMill.BAD);
         CHECK.due("token(4096, 0)", full.token(4096, 0), ConditionMill.BAD);
     }
 }

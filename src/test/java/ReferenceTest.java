@@ -220,14 +220,38 @@ public final class ReferenceTest {
     }
 
     private static final int[] FAULTS = new int[13];
+    private static ConditionMill mill = new ConditionMill();
+    private static int calls = 0;
 
-    private static void compare(ConditionMill mill, String text) {
+    /** Brings the text into the object, or into a new one where this one has too few calls left. */
+    private static void put(String text) {
+        int needed = 1 + (text.length() + 7) / 8;
+        if (calls + needed > Check.MOST_CALLS) {
+            mill = new ConditionMill();
+            calls = 0;
+        }
+        calls += needed;
         mill.cut(0);
         Check.feed(mill, text);
+    }
+
+    /** Before so many calls more about the text. */
+    private static void keepRoom(String text, int more) {
+        if (calls + more > Check.MOST_CALLS) {
+            calls = Check.MOST_CALLS;
+            put(text);
+        }
+        calls += more;
+    }
+
+    private static void compare(String text) {
+        put(text);
         List<Token> row = split(text);
+        keepRoom(text, 1);
         CHECK.due("tokens() of " + text, mill.tokens(), row.size());
         for (int i = 0; i < row.size(); i++) {
             Token token = row.get(i);
+            keepRoom(text, 3);
             CHECK.due("place of token " + i + " of " + text, mill.token(i, 0), token.start);
             CHECK.due("length of token " + i + " of " + text, mill.token(i, 1), token.bytes.length());
             CHECK.due("kind of token " + i + " of " + text, mill.token(i, 2), token.kind);
@@ -245,6 +269,7 @@ public final class ReferenceTest {
             fault = 12;
         }
         FAULTS[fault]++;
+        keepRoom(text, 3);
         CHECK.due("reckon() of " + text, mill.reckon(), fault);
         CHECK.due("value() of " + text, mill.value(), value);
         CHECK.due("isPlain() of " + text, mill.isPlain(), plain);
@@ -309,16 +334,15 @@ public final class ReferenceTest {
 
     public static void main(String[] args) {
         Random random = new Random(20);
-        ConditionMill mill = new ConditionMill();
         for (int i = 0; i < 20000; i++) {
             String grown = grow(random, 1 + random.nextInt(5));
-            compare(mill, grown);
+            compare(grown);
             if (i % 3 == 0) {
-                compare(mill, spoil(random, grown));
-                compare(mill, scraps(random));
+                compare(spoil(random, grown));
+                compare(scraps(random));
             }
             if (i % 10 == 0) {
-                compare(mill, nest(random));
+                compare(nest(random));
             }
         }
         for (int fault : new int[] {0, 11, 12}) {
