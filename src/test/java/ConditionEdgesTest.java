@@ -217,6 +217,17 @@ public final class ConditionEdgesTest {
 
     private static void inFront() {
         CHECK.sentence("and in front + - ~ !.");
+        CHECK.signed("+5", 5);
+        CHECK.signed("-5", -5);
+        CHECK.signed("-0", 0);
+        CHECK.signed("~5", -6);
+        CHECK.signed("~0", -1);
+        CHECK.signed("!5", 0);
+        CHECK.signed("!0", 1);
+        CHECK.plain("+5u", 5);
+        CHECK.plain("-5u", -5);
+        CHECK.plain("~5u", -6);
+        CHECK.signed("!5u", 0);
         for (String front : FRONTS) {
             for (String[] level : LEVELS) {
                 for (String sign : level) {

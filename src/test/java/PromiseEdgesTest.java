@@ -211,7 +211,9 @@ public final class PromiseEdgesTest {
         CHECK.due("cut(3) of 2", mill.cut(3), BAD);
         CHECK.due("cut(6) of 2", mill.cut(6), BAD);
         CHECK.due("length behind cut and BAD", mill.token(0, 1), 2);
-        mill.cut(0);
+        CHECK.due("cut(2) of 2", mill.cut(2), 0);
+        CHECK.due("cut(0) of 2", mill.cut(0), 2);
+        CHECK.due("cut(0) of 0", mill.cut(0), 0);
         CHECK.due("cut(1) of 0", mill.cut(1), BAD);
         CHECK.due("cut(-1) of 0", mill.cut(-1), BAD);
         CHECK.due("cut(4096) of 4088", Check.mill(" ".repeat(4088)).cut(4096), BAD);
@@ -367,6 +369,14 @@ public final class PromiseEdgesTest {
         CHECK.due("tokens() behind token()", mill.tokens(), 2);
         mill.cut(1);
         CHECK.due("tokens() behind cut", mill.tokens(), 1);
+        // A quote that was open when it was asked for is none once its end has come.
+        String[] quotes = {"'", "\"", "L'", "L\""};
+        for (String quote : quotes) {
+            ConditionMill open = Check.mill(quote + "x");
+            CHECK.due("tokens() of " + quote + "x", open.tokens(), quote.length() + 1);
+            open.feed(quote.charAt(quote.length() - 1), 1);
+            CHECK.due("tokens() of " + quote + "x with its end", open.tokens(), 1);
+        }
     }
 
     private static void firstPlace() {
